@@ -999,7 +999,6 @@ public final class NextSleeper {
         private static final int FIRST_VARIABLE = -10;
         // Two values may wait at each depth, one more ahead of '<'.
         private static final int HIGHEST = 2 * (DEEPEST + 1) + 4;
-
         private static final int MANY_VARIABLES = 7;
 
         // A LAW has more TOKENS than operations.

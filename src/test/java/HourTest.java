@@ -121,8 +121,9 @@ public final class HourTest {
         law("if 2<1 then 1/0 else 3", 3);
         law("if 2<1 then 3 else if 1/(1-1)<3 then 2 else 2", 0);
         law("if 1<2 then 3 else if 1/(1-1)<3 then 2 else 2", 3);
-        law("1+1*(1+1*(1+1*(1+1*(1+1*(1+1*1)))))", 3);
-        law("if 1+1*(1+1*(1+1*(1+1*(1+1*(1+1*1)))))<1+1*(1+1*(1+1*(1+1*(1+1*(1+1*2))))) then 3 else 1", 3);
+        law("1+1*(1+1*(1+1*(1+1*(1+1*(1+1*(1+1*0))))))", 3);
+        law("if 1+1*(1+1*(1+1*(1+1*(1+1*(1+1*(1+1*1))))))<1+1*(1+1*(1+1*(1+1*(1+1*(1+1*(1+1*2)))))) then 3 else 1", 3);
+        law("if 1+1*(1+1*(1+1*(1+1*(1+1*(1+1*(1+1*2))))))<1+1*(1+1*(1+1*(1+1*(1+1*(1+1*(1+1*2)))))) then 3 else 1", 1);
     }
 
     private static void variables() {
@@ -259,6 +260,9 @@ public final class HourTest {
         C.due("set(-1)", x.set(-1), false);
         C.due("set(-2)", x.set(-2), false);
         C.due("nothing done", x.count(6), 0);
+        C.due("bed(1, 0)", x.bed(1, 0), true);
+        C.due("BED", x.sleeper(1, 3), 0);
+        C.due("bed(1, 3)", x.bed(1, 3), true);
         C.due("bed(0, 23)", x.bed(0, 23), true);
         C.due("BED", x.sleeper(0, 3), 23);
         C.due("set(2)", x.set(2), true);

@@ -68,13 +68,13 @@ public final class SlotTest {
         x.nap(1, 2);
         x.hours(3);
         x.hold(0);
-        x.restore(0);
+        C.due("restore(0)", x.restore(0), true);
         x.hold(2);
         x.hours(2);
         x.hold(1);
         C.due("count(8)", x.count(8), 3);
         x.hold(0);
-        x.restore(2);
+        C.due("restore(2)", x.restore(2), true);
         C.due("hour", x.now(4), 3);
         x.set(1);
         x.hours(2);

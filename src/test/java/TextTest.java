@@ -283,6 +283,14 @@ public final class TextTest {
         C.due("another text: was(0, 0)", x.was(0, 0), -1);
         C.due("another text: undo()", x.undo(), false);
         C.due("another text: restore(0)", x.restore(0), false);
+        Checks.tape(x, "road c c;");
+        C.due("names of the text ahead are forgotten", x.read(), 4);
+        Checks.tape(x, "step a 1;sleeper t 9 4 8;naps 50;");
+        C.due("read()", x.read(), 0);
+        NextSleeper fresh = C.house("step a 1;sleeper t 9 4 8;naps 50;");
+        for (int i = 1; i < 24; i++) {
+            C.due("so is its SEED, in hour " + i, x.then(i, 5), fresh.then(i, 5));
+        }
         C.due("nothing in place of it", x.read(), 0);
         C.due("count(0)", x.count(0), 0);
         C.due("now(0)", x.now(0), -2);

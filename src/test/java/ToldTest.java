@@ -88,6 +88,22 @@ public final class ToldTest {
         C.due("doubt(0, -1)", x.doubt(0, -1), -1);
         C.due("doubt(2, 0)", x.doubt(2, 0), -1);
         C.due("doubt(-1, 0)", x.doubt(-1, 0), -1);
+        NextSleeper y = C.house("step p 0;step q 0;step r 0;step u 0;road p p;road p q;road p r;road p u;road q p;"
+            + "road q q;road q r;road q u;road r p;road r q;road r r;road u p;road u q;road u r;sleeper s 0 1 0;"
+            + "sleeper t 0 1 0;");
+        y.tell(0, 0, 0);
+        y.tell(0, 1, 2);
+        // 20 and 24 FIT: at r they go 1 and 2, at u 0 and 1.
+        C.due("two FIT", y.fits(0, 2, -1), 2);
+        C.due("doubt at r and u", y.doubt(0, 2), 12);
+        y.tell(1, 0, 0);
+        y.tell(1, 1, 0);
+        y.tell(1, 2, 0);
+        // 0 and 44 FIT: at u they go 0 and 1.
+        C.due("fits(1, 5, 0)", y.fits(1, 5, 0), 0);
+        C.due("fits(1, 5, 1)", y.fits(1, 5, 1), 44);
+        C.due("fits(1, 5, NONE)", y.fits(1, 5, -1), 2);
+        C.due("doubt at u", y.doubt(1, 5), 8);
         C.due("one ROAD is no doubt", C.house("step a 0;road a a;sleeper s 0 1 0;").doubt(0, 0), 0);
     }
 }

@@ -30,6 +30,22 @@ public final class WasTest {
         C.due("handed(0, -2)", x.handed(0, -2), -1);
         x.undo();
         C.due("undone", x.handed(1, 0), 0);
+        NextSleeper first = C.house("step a 0;step b 0;road a b;sleeper s 0 1 0;sleeper t 1 1 0;");
+        first.hours(2);
+        C.due("from hour 0 on", first.handed(0, 1), 1);
+        C.due("from hour 0 on", first.behind(1, 0), 1);
+        C.due("from hour 0 on", first.knows(0), 1);
+        C.due("from hour 0 on", first.when(0, false), 0);
+        C.due("from hour 0 on", first.longest(-1), 2);
+        C.due("from hour 0 on", first.count(9), 2);
+        first.undo();
+        first.hours(1);
+        C.due("what was undone is no more", first.handed(0, 1), 0);
+        C.due("what was undone is no more", first.behind(1, 0), 0);
+        C.due("what was undone is no more", first.knows(1), 0);
+        C.due("what was undone is no more", first.when(1, true), -2);
+        C.due("what was undone is no more", first.longest(-1), 1);
+        C.due("what was undone is no more", first.count(9), 1);
     }
 
     private static void luckiest() {

@@ -15,6 +15,7 @@ public final class WouldBeTest {
         fair();
         rests();
         round();
+        roundByEachThing();
         bestBed();
         bestStart();
         free();
@@ -57,6 +58,9 @@ public final class WouldBeTest {
         C.due("not by hour 600", x.ends(), -2);
         NextSleeper never = C.house("step a 1;road a a;sleeper s 0 1 0;");
         C.due("never", never.ends(), -2);
+        NextSleeper last = C.house("step a 0;step b 0;road a a;road a b;sleeper s 23 1 0;"
+            + "does s = if night<23 then 0 else 1;");
+        C.due("in the very last hour", last.ends(), 600);
     }
 
     private static void gains() {
@@ -173,6 +177,8 @@ public final class WouldBeTest {
         C.due("rests(0, NONE)", x.rests(0, -1), -1);
         C.due("rests(241, NONE)", x.rests(241, -1), -1);
         C.due("rests(5, -2)", x.rests(5, -2), -1);
+        C.due("rests(1, NONE)", x.rests(1, -1), 4);
+        C.due("rests(240, 0) is one", x.rests(240, -1) > 0 && x.rests(240, 0) >= 0, true);
         x.bed(0, 9);
         // s has nothing at 9 nor at 5; t dreams at 3 alone.
         C.due("by a BED that was changed", x.rests(5, -1), 2);
@@ -223,6 +229,30 @@ public final class WouldBeTest {
         C.due("of the day ahead", never.round(1), 1);
     }
 
+    /** Days that differ in one thing alone that ROUND looks at. */
+    private static void roundByEachThing() {
+        NextSleeper who = C.house("step a 0;road a a;sleeper s 5 3 0;sleeper t 5 3 0;");
+        who.hours(4);
+        who.nap(1, 4);
+        who.hours(2);
+        C.due("t DREAMS now, s a day later", who.round(0), 26);
+        C.due("all awake", who.round(1), 2);
+        NextSleeper stepToo = C.house("step a 0;step b 0;road a a;road a b;road b b;sleeper s 5 3 0;sleeper t 5 3 0;"
+            + "does s = 1;");
+        stepToo.hours(4);
+        stepToo.nap(1, 4);
+        stepToo.hours(2);
+        C.due("t at a now, s at b a day later", stepToo.round(0), 48);
+        C.due("as a day later", stepToo.round(1), 24);
+        NextSleeper left = C.house("step a 0;road a a;sleeper s 5 2 0;sleeper t 5 3 0;");
+        left.hours(5);
+        left.nap(0, 3);
+        left.nap(1, 2);
+        left.hours(1);
+        C.due("2 and 1 hours now, 1 and 2 a day later", left.round(0), 26);
+        C.due("all awake", left.round(1), 2);
+    }
+
     private static void bestBed() {
         NextSleeper x = C.house(HOUSE);
         C.due("bestBed(1, 5, 0)", x.bestBed(1, 5, 0), 0);
@@ -235,6 +265,7 @@ public final class WouldBeTest {
         C.due("bestBed(2, 5, 0)", x.bestBed(2, 5, 0), -10000);
         C.due("bestBed(-1, 5, 0)", x.bestBed(-1, 5, 0), -10000);
         C.due("bestBed(0, 0, 0)", x.bestBed(0, 0, 0), -10000);
+        C.due("bestBed(0, 240, 0) is one", x.bestBed(0, 240, 0) >= 0, true);
         C.due("bestBed(0, 241, 0)", x.bestBed(0, 241, 0), -10000);
         C.due("bestBed(0, 5, 2)", x.bestBed(0, 5, 2), -10000);
         C.due("bestBed(0, 5, -1)", x.bestBed(0, 5, -1), -10000);
@@ -252,6 +283,8 @@ public final class WouldBeTest {
         C.due("bestStart(2, 0)", x.bestStart(2, 0), 0);
         C.due("bestStart(2, 1)", x.bestStart(2, 1), 0);
         C.due("bestStart(0, 0)", x.bestStart(0, 0), -10000);
+        C.due("bestStart(1, 1)", x.bestStart(1, 1), 0);
+        C.due("bestStart(240, 0) is one", x.bestStart(240, 0) >= 0, true);
         C.due("bestStart(241, 0)", x.bestStart(241, 0), -10000);
         C.due("bestStart(5, 2)", x.bestStart(5, 2), -10000);
         C.due("bestStart(5, -1)", x.bestStart(5, -1), -10000);
@@ -329,6 +362,7 @@ public final class WouldBeTest {
         C.due("mean(0, 1)", x.mean(0, 1), -1);
         C.due("mean(11, 1)", x.mean(11, 1), -1);
         C.due("mean(1, 301)", x.mean(1, 301), -1);
+        C.due("mean(10, 300)", x.mean(10, 300), 10 * x.then(300, 5));
         C.due("mean(1, -1)", x.mean(1, -1), -1);
         x.hours(4);
         C.due("more from now on", x.mean(1, 25), 1);
