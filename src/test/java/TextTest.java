@@ -114,6 +114,26 @@ public final class TextTest {
         C.fault("seed 10000;", 1, 5);
         C.fault("does s 1;", 1, 7);
         C.fault("ends;", 1, 0);
+        firstOfSeveral();
+    }
+
+    /** Behind a fault the text would go on, and another one comes. */
+    private static void firstOfSeveral() {
+        String[] broken = {"step ", "step a ", "step a - ", "step a 1 ", "step a 1 ends ", "road ", "road a ",
+            "road a a ", "sleeper ", "sleeper s ", "sleeper s 0 ", "sleeper s 0 1 ", "sleeper s 0 1 0 ", "begins ",
+            "begins a ", "naps ", "naps 1 ", "seed ", "seed 1 ", "does ", "does s ", "does s = ", "does s = 1+ ",
+            "does s = (1 ", "does s = 2* ", "does s = if ", "does s = if 1 ", "does s = if 1< ", "does s = if 1<2 ",
+            "does s = if 1<2 then ", "does s = if 1<2 then 3 ", "does s = if 1<2 then 3 else ", "does s = ( ",
+            "does s = 1 "};
+        C.fault("does s;#", 1, 6);
+        C.fault("does s = ;#", 1, 9);
+        C.fault("does s = if 1<2 then 3;#", 1, 22);
+        for (String text : broken) {
+            C.fault(text + "seed 1;#", 1, text.length());
+            C.fault(text + "step a 1;;", 1, text.length());
+            C.fault(text + "does s = 1;road", 1, text.length());
+            C.fault(text, 1, text.length());
+        }
     }
 
     private static void lawSyntax() {
@@ -205,6 +225,23 @@ public final class TextTest {
         C.fault("naps 1;".repeat(133) + "seed 1;", 2, 133 * 7 + 5);
         C.fault("naps 1;".repeat(133) + "seed;", 1, 133 * 7 + 4);
         C.fault("naps 1;".repeat(133) + "seed", 1, 133 * 7 + 4);
+        for (String tell : new String[] {"step b - 1 ends ;", "road a a ;", "sleeper t 1 2 3 ;", "begins a ;",
+            "naps 2 ;", "seed 3 ;", "does s = if 1 < 2 then 3 else ( at + 2 ) * 3 - 4 / mood ;"}) {
+            String[] tokens = tell.split(" ");
+            int at = 0;
+            for (int i = 0; i < tokens.length; i++) {
+                String before = ahead(400 - i);
+                C.fault(before + tell, 2, before.length() + at);
+                at += tokens[i].length() + 1;
+            }
+            C.fault(ahead(400 - tokens.length) + tell, 0, -1);
+        }
+    }
+
+    /** A text of so many TOKENS, some 20 or more, that tells a STEP a and a SLEEPER s. */
+    private static String ahead(int tokens) {
+        String told = "step a 1;sleeper s 0 1 0;" + "road a a;".repeat((tokens - 10) % 3);
+        return told + "naps 1;".repeat((tokens - 10 - 4 * ((tokens - 10) % 3)) / 3);
     }
 
     private static void othersAndTheirOrder() {

@@ -104,6 +104,9 @@ public final class ToldTest {
         C.due("fits(1, 5, 1)", y.fits(1, 5, 1), 44);
         C.due("fits(1, 5, NONE)", y.fits(1, 5, -1), 2);
         C.due("doubt at u", y.doubt(1, 5), 8);
-        C.due("one ROAD is no doubt", C.house("step a 0;road a a;sleeper s 0 1 0;").doubt(0, 0), 0);
+        NextSleeper one = C.house("step a 0;road a a;sleeper s 0 1 0;");
+        C.due("one ROAD is no doubt", one.doubt(0, 0), 0);
+        C.due("tell(0, 0, 0)", one.tell(0, 0, 0), 0);
+        C.due("all go the one ROAD", one.fits(0, 1, -1), 25);
     }
 }
