@@ -7,6 +7,7 @@ public final class NextSleeper {
     private static final int MOST_BYTES = 2000;
     private static final int MOST_TOKENS = 400;
     private static final int MOST_STEPS = 10;
+    private static final int MOST_GOOD = 9;
     private static final int MOST_ROADS = 20;
     private static final int MOST_WAYS = 4;
     private static final int MOST_SLEEPERS = 6;
@@ -636,7 +637,7 @@ public final class NextSleeper {
                 return false;
             }
             boolean below = kind == '-';
-            if (below && !take('-') || !takeInt(0, 9)) {
+            if (below && !take('-') || !takeInt(0, MOST_GOOD)) {
                 return false;
             }
             int good = below ? -taken() : taken();
@@ -1652,6 +1653,9 @@ public final class NextSleeper {
 
     /** Orders in which all go to bed, place by place, each order's beginning gone through once. */
     private static final class Lines {
+        // Nobody can have more GOOD in a LINE.
+        private static final int MOST_GAINED = MOST_GOOD * LONGEST_SLEEP;
+
         private final State[] ahead = new State[MOST_SLEEPERS + 1];
         private final int[] order = new int[MOST_SLEEPERS];
         private final int[] chosen = new int[MOST_SLEEPERS];
@@ -1726,7 +1730,7 @@ public final class NextSleeper {
 
         private int fairest(House house, State now) {
             start(now);
-            weigh(house, 0, 0, Integer.MAX_VALUE);
+            weigh(house, 0, 0, MOST_GAINED);
             return best;
         }
 

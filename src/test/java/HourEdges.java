@@ -581,6 +581,10 @@ final class HourEdges {
         law(e, "9-4-2", 3);
         law(e, "2*3/4*3", 3);
         law(e, "9-(4-2)", 3);
+        String deep = "1+1*(1+1*(1+1*(1+1*(1+1*(1+1*(1+1*";
+        law(e, deep + "0))))))", 3);
+        law(e, "if " + deep + "1))))))<" + deep + "2)))))) then " + deep + "0)))))) else 1", 3);
+        law(e, "if " + deep + "2))))))<" + deep + "2)))))) then 1 else " + deep + "0))))))", 3);
 
         e.says("II", "ints of 32 bits that wrap, / rounded towards 0;");
         law(e, "8192*8192*32-1", 3);

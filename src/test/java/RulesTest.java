@@ -6,7 +6,9 @@ import java.nio.file.Files;
 import java.nio.file.Path;
 import java.util.ArrayList;
 import java.util.List;
+import java.util.Map;
 import java.util.Set;
+import java.util.TreeMap;
 import java.util.TreeSet;
 import java.util.regex.Matcher;
 import java.util.regex.Pattern;
@@ -21,6 +23,7 @@ public final class RulesTest {
         String source = Files.readString(Path.of("src/main/java/NextSleeper.java"), StandardCharsets.ISO_8859_1);
         words(source);
         methods(source);
+        depth(source);
         face();
         made();
         C.close("RulesTest");
@@ -31,7 +34,8 @@ public final class RulesTest {
             .replaceAll("\"[^\"\n]*\"", "\"\"");
         for (String word : new String[] {"throw", "throws", "try", "catch", "synchronized", "assert", "import",
             "package", "protected", "volatile", "transient", "native", "double", "float", "Object", "hashCode",
-            "toString", "System.out", "Thread", "Random", "currentTimeMillis", "nanoTime", "var"}) {
+            "toString", "System.out", "Thread", "Random", "currentTimeMillis", "nanoTime", "var", "MAX_VALUE",
+            "MIN_VALUE"}) {
             C.due("how often it says " + word,
                 Pattern.compile("\\b" + word.replace(".", "\\.") + "\\b").matcher(code).results().count(), 0);
         }
@@ -62,6 +66,44 @@ public final class RulesTest {
         C.due("methods are found", found > 100, true);
         hidden.removeIf(name -> !open.contains(name));
         C.due("private methods with a public one's name: " + hidden, hidden.size(), 0);
+    }
+
+    /** How deep calls go from each public method; one that calls itself, by whatever way, counts once. */
+    private static void depth(String source) {
+        String code = source.replaceAll("(?s)/\\*.*?\\*/", "").replaceAll("//[^\n]*", "");
+        Map<String, String> bodies = new TreeMap<>();
+        Matcher m = Pattern.compile("class (\\w+) \\{|" + METHOD.pattern()).matcher(code);
+        String owner = "";
+        while (m.find()) {
+            owner = m.group(1) != null ? m.group(1) : owner;
+            if (m.group(1) == null) {
+                bodies.put(owner + "." + m.group(3), code.substring(m.end(), code.indexOf("\n" + m.group(2) + "}", m.end())));
+            }
+        }
+        C.due("methods are found", bodies.size() > 100, true);
+        for (String name : bodies.keySet()) {
+            if (name.startsWith("NextSleeper.")) {
+                int deep = depth(bodies, name, new TreeSet<>());
+                C.due("eight deep at most: " + name + " goes " + deep, deep <= 8, true);
+            }
+        }
+    }
+
+    private static int depth(Map<String, String> bodies, String name, Set<String> open) {
+        if (!open.add(name)) {
+            return 0;
+        }
+        int most = 0;
+        Matcher m = Pattern.compile("(\\w+\\.)?(\\w+)\\(").matcher(bodies.get(name));
+        while (m.find()) {
+            for (String other : bodies.keySet()) {
+                boolean meant = m.group(1) == null ? other.equals(name.replaceFirst("\\..*", ".") + m.group(2))
+                    : other.endsWith("." + m.group(2));
+                most = meant ? Math.max(most, depth(bodies, other, open)) : most;
+            }
+        }
+        open.remove(name);
+        return most + 1;
     }
 
     private static void face() throws Exception {

@@ -567,6 +567,8 @@ final class TextEdges {
         Checks.tape(again, "step a 1;step b 2;road a b;sleeper s 1 3 5;sleeper t 0 2 9;naps 3;begins b;seed 4;");
         again.read();
         e.due("the same text again is a new one too", again.now(4) + again.count(6) + again.count(7) + again.count(8), 0);
+        Checks.tape(again, "road a a;");
+        e.due("NAMES of the one ahead are none of its", again.read(), 4);
         NextSleeper none = used(e);
         e.due("an empty text", none.read(), 0);
         e.due("is one too", Edge.all(none).equals(Edge.all(new NextSleeper())), true);

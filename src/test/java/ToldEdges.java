@@ -177,6 +177,16 @@ final class ToldEdges {
             + "road j a;road j b;sleeper s 0 1 0;");
         e.due("the last STEP", ten.doubt(0, 0), 512);
 
+        NextSleeper zero = e.house("step a 0;step b 0;step c 0;step d 0;road a a;road a b;road a c;road a d;road b a;road b b;"
+            + "road b c;road b d;road c a;road c b;road c c;road d a;road d b;road d c;sleeper s 0 1 0;");
+        zero.tell(0, 0, 0);
+        zero.tell(0, 1, 0);
+        zero.tell(0, 2, 0);
+        // 00 and 44 FIT: at d they go 0 and 1.
+        e.due("the first that FITS", zero.fits(0, 3, 0), 0);
+        e.due("the last that FITS", zero.fits(0, 3, 1), 44);
+        e.due("they part at d", zero.doubt(0, 3), 8);
+
         e.says("42", "NONE: no such ones.");
         int[][] others = {{-1, 0}, {2, 0}, {6, 0}, {MAX, 0}, {MIN, 0}, {0, -1}, {0, 3}, {0, 21}, {0, MAX}, {0, MIN}};
         for (int[] other : others) {
@@ -271,6 +281,19 @@ final class ToldEdges {
         e.due("hour 600 held", end.restore(2), true);
         e.due("all its hours", end.was(599, 0) >= -2 && end.now(4) == 600, true);
         e.due("its last END", end.when(2, true) > 500, true);
+        NextSleeper two = e.house(HourTest.HOUSE);
+        two.hold(0);
+        two.hours(5);
+        two.hold(1);
+        two.restore(0);
+        two.set(2);
+        two.nap(1, 12);
+        two.hours(5);
+        e.dueRow("another way on: who", Edge.dreamers(two), 1, 1, 1, 1, 1);
+        e.due("restore(1)", two.restore(1), true);
+        e.dueRow("what was is as it was: who", Edge.dreamers(two), -2, -2, 0, 0, 0);
+        e.dueRow("what was is as it was: which STEPS", Edge.steps(two), -2, -2, 0, 2, 0);
+        e.due("hours in which somebody DREAMT", two.count(9), 3);
         NextSleeper fresh = new NextSleeper();
         fresh.hold(0);
         fresh.hours(5);
@@ -310,6 +333,9 @@ final class ToldEdges {
         e.dueRow("undone", Edge.counts(x), 2, 3, 1, 1, 100, 13, 0, 1, 2, 0);
         x.hours(600);
         e.due("600 hours", x.count(9), 600);
+        NextSleeper quiet = e.house("step a 0;sleeper s 3 2 0;");
+        quiet.hours(7);
+        e.due("two of seven hours", quiet.count(9), 2);
         e.due("no STEPS", e.house("sleeper s 0 1 0;").count(3), -2);
 
         e.says("45", "NONE for others.");

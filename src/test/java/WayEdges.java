@@ -32,6 +32,8 @@ final class WayEdges {
         ends.set(2);
         e.due("not by an END to BEGINS", ends.reach(), 4);
 
+        e.due("by each ROAD", e.house("step a 0;step b 0;step c 0;step d 0;road a c;road a d;road c b;").reach(), 15);
+
         e.says("23", "REACH (bits).");
         e.due("no STEPS", new NextSleeper().reach(), 0);
         e.due("no ROADS", e.house(TEN + "begins j;").reach(), 512);
@@ -50,6 +52,11 @@ final class WayEdges {
         two.set(7);
         e.due("round about", two.far(6), 8);
         e.due("where it stands, though it could be gone round", two.far(7), 0);
+
+        NextSleeper many = e.house(TEN + "begins j;road j c;road j d;road j b;road c b;road b a;road d a;");
+        e.due("by the second ROAD", many.far(0), 2);
+        NextSleeper first = e.house("step a 0;step b 0;step c 0;road a c;road a b;road b c;");
+        e.due("by the first ROAD", first.far(2), 1);
 
         e.says("24", "FAR;");
         NextSleeper ends = e.house("step a 0 ends;step b 0;road a b;begins b;");

@@ -315,6 +315,7 @@ final class WouldBeEdges {
         NextSleeper six = e.house("step a -9;road a a;sleeper s 0 12 0;sleeper t 0 12 0;sleeper u 0 12 0;sleeper v 0 12 0;"
             + "sleeper w 0 12 0;sleeper x 0 12 0;");
         e.due("six for twelve hours", six.fair(0), -108);
+        e.due("the most that can be", e.house("step a 9;road a a;sleeper s 0 12 0;sleeper t 0 12 0;").fair(0), 108);
 
         e.says("20", "-10000: no SLEEPERS, for others.");
         e.due("no SLEEPERS", e.house("step a 1;").fair(0), -10000);
