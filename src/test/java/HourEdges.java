@@ -585,6 +585,9 @@ final class HourEdges {
         law(e, deep + "0))))))", 3);
         law(e, "if " + deep + "1))))))<" + deep + "2)))))) then " + deep + "0)))))) else 1", 3);
         law(e, "if " + deep + "2))))))<" + deep + "2)))))) then 1 else " + deep + "0))))))", 3);
+        String three = "if 2<1 then 1 else ".repeat(3);
+        law(e, three + "if 2<1 then 1 else " + deep + "0))))))", 3);
+        law(e, three + "if " + deep + "1))))))<" + deep + "2)))))) then " + deep + "0)))))) else 1", 3);
 
         e.says("II", "ints of 32 bits that wrap, / rounded towards 0;");
         law(e, "8192*8192*32-1", 3);

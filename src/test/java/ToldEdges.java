@@ -187,6 +187,16 @@ final class ToldEdges {
         e.due("the last that FITS", zero.fits(0, 3, 1), 44);
         e.due("they part at d", zero.doubt(0, 3), 8);
 
+        NextSleeper one = e.house("step a 0;step b 0;step c 0;step d 0;road a a;road a b;road a c;road a d;road b a;road b b;"
+            + "road b c;road b d;road c a;road c b;road c c;road d a;road d b;road d c;sleeper s 0 1 0;");
+        one.tell(0, 0, 0);
+        one.tell(0, 1, 1);
+        one.tell(0, 3, 0);
+        // 10 alone FITS: a 5 and b 0 would too, and go another ROAD at c, but are no NATURE.
+        e.due("one FITS", one.fits(0, 3, -1), 1);
+        e.due("which", one.fits(0, 3, 0), 10);
+        e.due("one that FITS is no doubt", one.doubt(0, 3), 0);
+
         e.says("42", "NONE: no such ones.");
         int[][] others = {{-1, 0}, {2, 0}, {6, 0}, {MAX, 0}, {MIN, 0}, {0, -1}, {0, 3}, {0, 21}, {0, MAX}, {0, MIN}};
         for (int[] other : others) {
